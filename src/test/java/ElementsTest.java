@@ -184,6 +184,12 @@ public final class ElementsTest {
         due.is("habit below 0", 2497, x.normal(2));
         x.film(0, 50, 150);
         due.is("99 less 75", 48, x.normal(1));
+        x.cycle(0, 0, 75, 999);
+        x.cycle(0, 0, 76, 999);
+        x.cycle(0, 0, 77, 999);
+        due.is("75 less 75, 1 at least", 9, x.normal(3));
+        due.is("76 less 75", 9, x.normal(4));
+        due.is("77 less 75", 19, x.normal(5));
     }
 
     private static void keptAndLevel() {

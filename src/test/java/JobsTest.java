@@ -245,6 +245,12 @@ public final class JobsTest {
         y.set(0);
         y.change(0);
         due.is("10 of 100 are 10 hundredths", 100, y.move(0));
+        due.reads(y, "share 90;", 1);
+        y.change(1);
+        due.is("9 times 10 of 100 are 90 hundredths", 100, y.move(0));
+        due.reads(y, "share 91;", 1);
+        y.change(1);
+        due.is("but not 91", Due.STATE, y.move(0));
     }
 
     private static void aShareOfNothing() {

@@ -11,9 +11,13 @@ public final class LooseTest {
         looserWrong();
         theOrder();
         orderOfSeveral();
+        orderWithTheFirstJob();
+        orderIsReckonedAnew();
         slowWrong();
         howManyRowsAreEnough();
         ranksOfTheSame();
+        ranksAreTwiceTheLesserAndTheSame();
+        slowIsReckonedAnew();
         pacesAreCut();
         fourteenRowsAtMost();
         rowsWithoutGoodPieces();
@@ -143,6 +147,34 @@ public final class LooseTest {
         }
     }
 
+    private static void orderWithTheFirstJob() {
+        BenchTimes x = Due.withJobs(3);
+        for (int worker = 0; worker < 5; worker++) {
+            for (int job = 0; job < 3; job++) {
+                x.work(0, 10 * job + worker, 10000 * (3 - job), 10);
+            }
+        }
+        for (int i = 0; i < 3; i++) {
+            due.is("each is LOOSER than the next, order(" + i + ")", i, x.order(i));
+        }
+        BenchTimes y = compared(0, 5);
+        due.is("the first one is the tight one", 1, y.order(0));
+        due.is("the first one is the tight one", 0, y.order(1));
+        BenchTimes z = Due.withJobs(8);
+        z.work(0, 67, 0, 1);
+        due.is("one row, of one minute, of the last worker", 6, z.order(0));
+    }
+
+    private static void orderIsReckonedAnew() {
+        BenchTimes x = compared(0, 5);
+        for (int i = 0; i < 5; i++) {
+            due.is("order", 1, x.order(0));
+        }
+        x.work(0, 0, 90000, 10);
+        due.is("not LOOSER any more", 0, x.looser(1, 0));
+        due.is("order", 0, x.order(0));
+    }
+
     private static void slowWrong() {
         BenchTimes x = Due.withJobs(2);
         due.is("worker -1", Due.BEYOND, x.slow(-1, 0));
@@ -212,6 +244,39 @@ public final class LooseTest {
         y.work(0, 0, 10000, 10);
         // Ranks 4 4 4 4 4 12 12 12 12: 4 ways of 84.
         due.is("4 of 84", 1, y.slow(0, 0));
+    }
+
+    /** Whether WORKER 0 is SLOW whose rows have these MINUTES (below 0: WATCHED) for 10 GOOD pieces each. */
+    private static int slowWith(int... minutes) {
+        BenchTimes x = Due.withJobs(1);
+        for (int m : minutes) {
+            x.work(0, 0, 10000, m);
+        }
+        return x.slow(0, 0);
+    }
+
+    private static void ranksAreTwiceTheLesserAndTheSame() {
+        due.is("twice the lesser ones", 1, slowWith(11, 11, -14, -12, 14, 11, -15, -13, -15));
+        due.is("twice the lesser ones", 0, slowWith(-15, 10, -13, -10, 11, -13, 10, -15, 12, -12));
+        due.is("and the same ones", 1, slowWith(-14, 11, -15, 12, -14, 11, -13, -10, 10, -14));
+        due.is("the WATCHED ones first", 1, slowWith(-15, -14, -13, 12, 11, 10));
+        due.is("the WATCHED ones first", 0, slowWith(-15, -14, -12, 13, 11, 10));
+        // 4 ways of 78: 13 12, 13 11, 13 10, 12 11.
+        due.is("a little more than a twentieth", 0, slowWith(1, 2, 3, 4, 5, 6, 7, 8, 9, 10, -11, -12, 13));
+        due.is("2 ways of 78", 1, slowWith(1, 2, 3, 4, 5, 6, 7, 8, 9, 10, -11, 12, -13));
+    }
+
+    private static void slowIsReckonedAnew() {
+        BenchTimes x = slowed(14, 7);
+        for (int i = 0; i < 6; i++) {
+            x.work(0, 1, 10000, i < 3 ? 10 + i : -10 - i);
+            x.work(0, 2, 10000, i < 3 ? -10 - i : 10 + i);
+        }
+        for (int again = 0; again < 3; again++) {
+            due.is("worker 0", 1, x.slow(0, 0));
+            due.is("worker 1", 1, x.slow(1, 0));
+            due.is("worker 2", 0, x.slow(2, 0));
+        }
     }
 
     private static void pacesAreCut() {

@@ -1,4 +1,8 @@
-/** Promises 32 to 35. */
+import java.util.List;
+import java.util.function.Consumer;
+import java.util.function.IntSupplier;
+
+/** Promises 32 to 35, and what the others say of findings. */
 public final class ToldTest {
     private static final Due due = new Due();
 
@@ -8,6 +12,7 @@ public final class ToldTest {
         checksWrong();
         counts();
         founds();
+        everyFinding();
         due.end();
     }
 
@@ -99,6 +104,139 @@ public final class ToldTest {
         }
         due.is("count(-1)", Due.BEYOND, x.count(-1));
         due.is("count(10)", Due.BEYOND, x.count(10));
+    }
+
+    /** An object that is full, with a JOB 6 whose ELEMENT has no CYCLES and a JOB 7 that has no RATE. */
+    private static BenchTimes full() {
+        BenchTimes x = Due.withJobs(6);
+        times(6, () -> x.element(0));
+        times(2, () -> x.job());
+        x.part(6, 11, 1);
+        for (int element = 0; element < 6; element++) {
+            x.part(7, element, 1);
+        }
+        for (int rates = 6; rates < 40; rates++) {
+            x.change(0);
+            x.move(0);
+        }
+        x.change(0);
+        times(54, () -> x.cycle(0, 0, 100, 100));
+        times(20, () -> x.film(0, 100, 100));
+        times(100, () -> x.work(0, 0, 1000, 10));
+        times(60, () -> x.wait(0, 1, 0, 10));
+        times(60, () -> x.feed(' '));
+        times(8, () -> x.tell(0));
+        return x;
+    }
+
+    private static void times(int many, IntSupplier call) {
+        for (int i = 0; i < many; i++) {
+            call.getAsInt();
+        }
+    }
+
+    private static void counted(BenchTimes x, String name, int finding, IntSupplier call) {
+        int k = -1000000000 - finding;
+        int before = x.found(k);
+        due.is(name, finding, call.getAsInt());
+        due.is("found(" + k + ") behind " + name, before + 1, x.found(k));
+    }
+
+    /** Each finding of each call is counted, and changes nothing else; no object is used for more than 512 calls. */
+    private static void everyFinding() {
+        List<Consumer<BenchTimes>> groups = List.of(ToldTest::fullOnes, ToldTest::beyondOnes,
+                ToldTest::beyondOnesOfWeeks, ToldTest::otherOnes);
+        for (Consumer<BenchTimes> group : groups) {
+            BenchTimes x = full();
+            group.accept(x);
+            isStillFull(x);
+        }
+    }
+
+    private static void fullOnes(BenchTimes x) {
+        counted(x, "element", Due.FULL, () -> x.element(0));
+        counted(x, "cycle", Due.FULL, () -> x.cycle(0, 0, 100, 100));
+        counted(x, "job", Due.FULL, () -> x.job());
+        counted(x, "part", Due.FULL, () -> x.part(7, 6, 1));
+        counted(x, "set", Due.FULL, () -> x.set(7));
+        counted(x, "move", Due.FULL, () -> x.move(0));
+        counted(x, "feed", Due.FULL, () -> x.feed(0));
+        counted(x, "work", Due.FULL, () -> x.work(0, 0, 1000, 10));
+        counted(x, "wait", Due.FULL, () -> x.wait(0, 0, 0, 10));
+        counted(x, "tell", Due.FULL, () -> x.tell(0));
+        counted(x, "film", Due.FULL, () -> x.film(0, 100, 100));
+    }
+
+    private static void beyondOnes(BenchTimes x) {
+        counted(x, "element", Due.BEYOND, () -> x.element(4));
+        counted(x, "as", Due.BEYOND, () -> x.as(12, 0));
+        counted(x, "allow", Due.BEYOND, () -> x.allow(51, 0));
+        counted(x, "film", Due.BEYOND, () -> x.film(4, 100, 100));
+        counted(x, "habit", Due.BEYOND, () -> x.habit(4));
+        counted(x, "cycle", Due.BEYOND, () -> x.cycle(0, 0, 100, 0));
+        counted(x, "normal", Due.BEYOND, () -> x.normal(60));
+        counted(x, "of", Due.BEYOND, () -> x.of(0, 7));
+        counted(x, "part", Due.BEYOND, () -> x.part(0, 0, 0));
+        counted(x, "set", Due.BEYOND, () -> x.set(8));
+        counted(x, "change", Due.BEYOND, () -> x.change(12));
+        counted(x, "move", Due.BEYOND, () -> x.move(8));
+        counted(x, "rate", Due.BEYOND, () -> x.rate(8, 0));
+        counted(x, "worth", Due.BEYOND, () -> x.worth(0, 0, 1));
+        counted(x, "week", Due.BEYOND, () -> x.week(501));
+        counted(x, "feed", Due.BEYOND, () -> x.feed(256));
+        counted(x, "rule", Due.BEYOND, () -> x.rule(5));
+    }
+
+    private static void beyondOnesOfWeeks(BenchTimes x) {
+        counted(x, "work", Due.BEYOND, () -> x.work(1, 0, 0, 1));
+        counted(x, "work", Due.BEYOND, () -> x.work(0, 0, 0, 0));
+        counted(x, "wait", Due.BEYOND, () -> x.wait(0, 0, 0, 0));
+        counted(x, "learner", Due.BEYOND, () -> x.learner(0, 0, 501));
+        counted(x, "earned", Due.BEYOND, () -> x.earned(100));
+        counted(x, "pay", Due.BEYOND, () -> x.pay(0, 0, 5));
+        counted(x, "cause", Due.BEYOND, () -> x.cause(4));
+        counted(x, "pool", Due.BEYOND, () -> x.pool(0, 0, 0));
+        counted(x, "efficiency", Due.BEYOND, () -> x.efficiency(8, 0));
+        counted(x, "looser", Due.BEYOND, () -> x.looser(0, 0));
+        counted(x, "order", Due.BEYOND, () -> x.order(-1));
+        counted(x, "slow", Due.BEYOND, () -> x.slow(8, 0));
+        counted(x, "count", Due.BEYOND, () -> x.count(10));
+        counted(x, "found", Due.BEYOND, () -> x.found(6));
+    }
+
+    private static void otherOnes(BenchTimes x) {
+        counted(x, "as", Due.KIND, () -> x.as(0, 3));
+        counted(x, "part", Due.STATE, () -> x.part(0, 0, 1));
+        counted(x, "set", Due.STATE, () -> x.set(0));
+        counted(x, "move", Due.STATE, () -> x.move(1));
+        counted(x, "of", Due.NONE, () -> x.of(11, 2));
+        counted(x, "set", Due.NONE, () -> x.set(6));
+        counted(x, "rate", Due.NONE, () -> x.rate(6, 0));
+        counted(x, "worth", Due.NONE, () -> x.worth(6, 0, 0));
+        counted(x, "work", Due.NONE, () -> x.work(0, 60, 0, 1));
+        counted(x, "pool", Due.NONE, () -> x.pool(2, 0, 1));
+        counted(x, "efficiency", Due.NONE, () -> x.efficiency(1, 0));
+        counted(x, "order", Due.NONE, () -> x.order(1));
+        counted(x, "slow", Due.NONE, () -> x.slow(0, 0));
+    }
+
+    private static void isStillFull(BenchTimes x) {
+        int[] counts = {12, 60, 20, 8, 40, 0, 100, 60, 60, 8};
+        for (int what = 0; what < counts.length; what++) {
+            due.is("count(" + what + ")", counts[what], x.count(what));
+        }
+        int[] rules = {10, 4, 50, 3, 80};
+        for (int what = 0; what < rules.length; what++) {
+            due.is("rule(" + what + ")", rules[what], x.rule(what));
+        }
+        due.is("habit", 0, x.habit(0));
+        due.is("allowance", 10, x.as(0, 0));
+        due.is("learner", -1, x.learner(0, 0, 0));
+        due.is("rate", 110, x.rate(0, 500));
+        due.is("waited", 600, x.cause(0));
+        due.is("worked", 1000, x.pay(0, 0, 3));
+        due.is("the mark is there still", Due.FULL, x.move(0));
+        due.is("the tape", -10, x.read());
     }
 
     private static void founds() {

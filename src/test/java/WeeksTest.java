@@ -5,6 +5,7 @@ public final class WeeksTest {
     public static void main(String[] args) {
         workWrong();
         workNeedsARate();
+        workOfEachOnEach();
         workIsAtMostHundredRows();
         waitWrong();
         waitIsAtMostSixtyRows();
@@ -65,6 +66,33 @@ public final class WeeksTest {
         due.is("a rate", 0, x.work(5, 0, 1000, 10));
     }
 
+    private static void workOfEachOnEach() {
+        BenchTimes x = new BenchTimes();
+        x.allow(0, 0);
+        for (int job = 0; job < 8; job++) {
+            x.element(0);
+            x.cycle(job, 0, 100, 100 * (job + 1));
+            x.job();
+            x.part(job, job, 1);
+            if (job < 7) {
+                x.set(job);
+            }
+        }
+        for (int job = 0; job < 7; job++) {
+            for (int worker = 0; worker < 8; worker++) {
+                int row = x.work(0, 10 * job + worker, 1000 * (worker + 1), 10 + worker);
+                due.is("row", 8 * job + worker, row);
+                due.is("earned", (job + 1) * (worker + 1), x.earned(row));
+                due.is("efficiency", 100 * (job + 1) * (worker + 1) / (10 + worker), x.efficiency(worker, job));
+            }
+        }
+        for (int worker = 0; worker < 8; worker++) {
+            due.is("the eighth has no rate", Due.NONE, x.work(0, 70 + worker, 1000, 10));
+            due.is("MINUTES", 7 * (10 + worker), x.pay(worker, 0, 3));
+            due.is("EARNED", 28 * (worker + 1), x.pay(worker, 0, 1));
+        }
+    }
+
     private static void workIsAtMostHundredRows() {
         BenchTimes x = Due.withJobs(1);
         x.job();
@@ -106,6 +134,8 @@ public final class WeeksTest {
         due.is("wait, full and beyond", Due.BEYOND, x.wait(0, 7, 0, 0));
         due.is("count", 60, x.count(7));
         due.is("minutes", 180000, x.pay(7, 0, 4));
+        due.is("half of them", 90000, x.pay(7, 0, 2));
+        due.is("four fifths of them", 144000, x.pay(7, 0, 0));
         due.is("of a cause", 45000, x.cause(0));
     }
 

@@ -192,6 +192,10 @@ public final class LooseTest {
         due.is("WATCHED on another job", Due.NONE, x.slow(0, 0));
         x.work(0, 0, 1000, -10);
         due.is("one WATCHED", 0, x.slow(0, 0));
+        x.work(0, 2, 1000, 1);
+        due.is("one minute", Due.NONE, x.slow(2, 0));
+        x.work(0, 2, 1000, -1);
+        due.is("one minute, WATCHED", 0, x.slow(2, 0));
     }
 
     /** So many rows, each slower than the one ahead; the last m are WATCHED. */

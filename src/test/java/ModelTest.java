@@ -33,7 +33,6 @@ public final class ModelTest {
             test.run(run);
         }
         test.looksAtWhatWasAnswered();
-        if (args.length > 0) { System.out.println(test.answered); }
         System.out.println(test.wrong == 0 ? "as due" : test.wrong + " answers are not as due");
         if (test.wrong != 0) {
             System.exit(1);

@@ -302,11 +302,7 @@ public final class BenchTimes {
         if (!isWithin(workers, 1, 255) || !isWeek(week) || !isWorker(worker) || !isIn(workers, worker)) {
             return finding(BEYOND);
         }
-        int got = pays.shareOf(workers, week, worker);
-        if (got == NOTHING) {
-            return finding(NONE);
-        }
-        return got;
+        return orNone(pays.shareOf(workers, week, worker));
     }
 
     // ---- loose and tight, slow
@@ -316,11 +312,7 @@ public final class BenchTimes {
             return finding(BEYOND);
         }
         doubt.survey();
-        int found = doubt.efficiencyOf(worker, job);
-        if (found == NOTHING) {
-            return finding(NONE);
-        }
-        return found;
+        return orNone(doubt.efficiencyOf(worker, job));
     }
 
     public int looser(int job, int than) {
@@ -336,11 +328,7 @@ public final class BenchTimes {
             return finding(BEYOND);
         }
         doubt.survey();
-        int found = doubt.jobAt(i);
-        if (found == NOTHING) {
-            return finding(NONE);
-        }
-        return found;
+        return orNone(doubt.jobAt(i));
     }
 
     public int slow(int worker, int job) {
@@ -407,6 +395,10 @@ public final class BenchTimes {
     private int finding(int k) {
         findings[k]++;
         return LOW - k;
+    }
+
+    private int orNone(int found) {
+        return found == NOTHING ? finding(NONE) : found;
     }
 
     private int newRate(int job, int from) {

@@ -6,6 +6,7 @@ public final class JobsTest {
         jobs();
         parts();
         partsAreAtMostSix();
+        sixPartsStandByThemselves();
         sets();
         setTakesTheWeek();
         changes();
@@ -74,6 +75,25 @@ public final class JobsTest {
         due.is("the sixth", 660, x.worth(0, 0, 5));
         due.is("the seventh", Due.BEYOND, x.worth(0, 0, 6));
         due.is("the next job's element has no cycles", Due.NONE, x.set(1));
+    }
+
+    private static void sixPartsStandByThemselves() {
+        BenchTimes x = new BenchTimes();
+        x.job();
+        x.job();
+        for (int i = 0; i < 7; i++) {
+            x.element(0);
+            x.cycle(i, 0, 100, 100);
+            x.part(i / 6, i, 1);
+        }
+        due.is("set", 660, x.set(0));
+        due.is("nothing of it is marked", Due.STATE, x.move(0));
+        due.is("set", 110, x.set(1));
+        x.change(6);
+        due.is("nothing of it is marked", Due.STATE, x.move(0));
+        x.change(5);
+        due.is("move", 660, x.move(0));
+        due.is("move", 110, x.move(1));
     }
 
     private static void sets() {

@@ -104,6 +104,8 @@ public final class WeeksTest {
         due.is("work, full and beyond", Due.BEYOND, x.work(0, 0, 1000, 0));
         due.is("rows", 100, x.count(6));
         due.is("the last one", 108, x.earned(99));
+        due.is("all rows are looked through", Due.NONE, x.slow(7, 0));
+        due.is("all rows are looked through", 0, x.order(0));
         due.is("earned(100)", Due.BEYOND, x.earned(100));
     }
 
